@@ -359,7 +359,7 @@ public final class TransformProduct {
         }
 
         private void splitBlock(int[] row, int block, int stage) {
-            int half = size >> stage + 1;
+            int half = size >> (stage + 1);
             int start = 2 * half * block;
             for (int j = 0; j < half; j++) {
                 int low = row[start + j];
@@ -372,7 +372,7 @@ public final class TransformProduct {
         }
 
         private void joinBlock(int[] row, int block, int stage) {
-            int half = size >> stage + 1;
+            int half = size >> (stage + 1);
             int start = 2 * half * block;
             for (int j = 0; j < half; j++) {
                 int low = row[start + j];

@@ -1,5 +1,8 @@
 /** Counts and prints the answers that are not as due; a test ends with ended(). */
 final class Check {
+    private static final int SOME = 20;
+    private static final int[] DIVISORS = {1000000000, 999999999, 999999937, 998244353};
+
     private int wrong = 0;
 
     void same(String call, long got, long due) {
@@ -17,13 +20,30 @@ final class Check {
         same(call, got ? 1 : 0, 0);
     }
 
-    /** The whole product, through length() and digit(). */
+    /**
+     * The whole product, through length(), digit() and rest(): at most 80 calls, since
+     * nothing is promised of an object after its 512th. Of a long product some digits are
+     * read; that the others are right, the rests tell.
+     */
     void product(String name, TransformProduct x, int... digits) {
-        same(name + " length()", x.length(), digits.length);
-        for (int i = 0; i < digits.length; i++) {
+        int count = digits.length;
+        same(name + " length()", x.length(), count);
+        same(name + " digit(" + count + ")", x.digit(count), TransformProduct.NONE);
+        int step = count <= 3 * SOME ? 1 : count / SOME;
+        for (int i = 0; i < count; i += i < SOME || i >= count - SOME ? 1 : step) {
             same(name + " digit(" + i + ")", x.digit(i), digits[i]);
         }
-        same(name + " digit(" + digits.length + ")", x.digit(digits.length), TransformProduct.NONE);
+        for (int m : DIVISORS) {
+            same(name + " rest(" + m + ")", x.rest(m), rest(digits, m));
+        }
+    }
+
+    private static long rest(int[] digits, int m) {
+        long left = 0;
+        for (int i = digits.length - 1; i >= 0; i--) {
+            left = (left * 32768 + digits[i]) % m;
+        }
+        return left;
     }
 
     void ended() {

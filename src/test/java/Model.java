@@ -70,6 +70,10 @@ final class Model {
         return i < 0 || i >= product.size() ? NONE : product.get(i);
     }
 
+    int[] productDigits() {
+        return product.stream().mapToInt(Integer::intValue).toArray();
+    }
+
     int butterflies() {
         return butterflies;
     }

@@ -127,7 +127,7 @@ public final class ProductTest {
 
     /** (b^h - 1)^2 = b^2h - 2 b^h + 1: the coefficients are the greatest there are. */
     private static void greatestProducts(int log) {
-        int half = 1 << log - 1;
+        int half = 1 << (log - 1);
         int[] due = new int[2 * half];
         due[0] = 1;
         due[half] = 32766;
@@ -154,11 +154,8 @@ public final class ProductTest {
             Model model = new Model(log);
             x.init();
             model.init();
-            for (int i = 0; i < size; i++) {
-                int digit = random.nextInt(32768);
-                model.repeat(i < countA ? 0 : 1, digit, 1);
-                CHECK.yes("feed " + i, i < countA ? x.feedA(digit) : x.feedB(digit));
-            }
+            feedMixed(random, x, model, 0, countA);
+            feedMixed(random, x, model, 1, size - countA);
             String name = "log " + log + ", " + countA + " digits in A: ";
             CHECK.same(name + "multiply()", x.multiply() ? 1 : 0, model.multiply() ? 1 : 0);
             sameProduct(name + "product", x, model);
@@ -167,12 +164,20 @@ public final class ProductTest {
         }
     }
 
-    private static void sameProduct(String name, TransformProduct x, Model model) {
-        int[] due = new int[model.length()];
-        for (int i = 0; i < due.length; i++) {
-            due[i] = model.digit(i);
+    /** In short runs of one digit each, to stay below 512 calls. */
+    private static void feedMixed(Random random, TransformProduct x, Model model, int which, int count) {
+        int longest = model.size / 64 + 1;
+        for (int fed = 0; fed < count;) {
+            int times = Math.min(count - fed, 1 + random.nextInt(longest));
+            int digit = random.nextInt(32768);
+            model.repeat(which, digit, times);
+            CHECK.yes("repeat", x.repeat(which, digit, times));
+            fed += times;
         }
-        CHECK.product(name, x, due);
+    }
+
+    private static void sameProduct(String name, TransformProduct x, Model model) {
+        CHECK.product(name, x, model.productDigits());
     }
 
     private static void butterfliesOf(int log) {

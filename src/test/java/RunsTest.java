@@ -2,7 +2,7 @@ import java.util.Random;
 
 /** All promises: long runs of calls, each answer compared with the model's. */
 public final class RunsTest {
-    private static final int CALLS = 512;
+    private static final int CALLS = 260;
     private static final int RUNS_PER_LOG = 20;
     private static final int[] ODD_NUMBERS = {-1, 2, 3, 32768, 1000000001, Integer.MIN_VALUE, Integer.MAX_VALUE};
 
@@ -35,7 +35,15 @@ public final class RunsTest {
             name = run + " call " + call + " ";
             step(random.nextInt(100));
         }
-        wholeState(run);
+        wholeState(run + " at the end ");
+    }
+
+    private void wholeState(String end) {
+        check.product(end, x, model.productDigits());
+        for (int which = 0; which < 2; which++) {
+            check.yes(end + "take(" + which + ")", x.take(which) && model.take(which));
+            check.product(end + "row " + which, x, model.productDigits());
+        }
     }
 
     private void step(int kind) {
@@ -96,14 +104,6 @@ public final class RunsTest {
             check.same(name + "compare", x.compare(), model.compare());
         } else {
             check.same(name + "rest", x.rest(m), model.rest(m));
-        }
-    }
-
-    private void wholeState(String run) {
-        name = run + " at the end ";
-        check.same(name + "length", x.length(), model.length());
-        for (int i = 0; i <= model.size; i++) {
-            check.same(name + "digit " + i, x.digit(i), model.digit(i));
         }
     }
 

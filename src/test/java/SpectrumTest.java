@@ -4,7 +4,7 @@ public final class SpectrumTest {
 
     public static void main(String[] args) {
         notReady();
-        for (int log = 1; log <= 6; log++) {
+        for (int log = 1; log <= 5; log++) {
             everyNumber(log);
         }
         ofTheGreatestRow();
