@@ -20,6 +20,14 @@ final class Check {
         same(call, got ? 1 : 0, 0);
     }
 
+    void text(String call, String got, String due) {
+        if (!got.equals(due)) {
+            wrong++;
+            System.out.println(call + " is" + System.lineSeparator() + "  " + got
+                    + System.lineSeparator() + "due is" + System.lineSeparator() + "  " + due);
+        }
+    }
+
     /**
      * The whole product, through length(), digit() and rest(): at most 80 calls, since
      * nothing is promised of an object after its 512th. Of a long product some digits are

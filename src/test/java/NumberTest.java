@@ -1,59 +1,95 @@
+import java.math.BigInteger;
+
 /** Promises 15 and 16: compare, rest. */
 public final class NumberTest {
     private static final Check CHECK = new Check();
 
     public static void main(String[] args) {
-        compared(new int[] {}, new int[] {}, 0);
-        compared(new int[] {0, 0}, new int[] {}, 0);
-        compared(new int[] {0}, new int[] {0, 0, 0, 0}, 0);
-        compared(new int[] {1}, new int[] {}, 1);
-        compared(new int[] {5, 0, 0}, new int[] {5}, 0);
-        compared(new int[] {5, 0, 0, 0}, new int[] {6}, -1);
-        compared(new int[] {32767}, new int[] {0, 1}, -1);
-        compared(new int[] {9, 2}, new int[] {1, 3}, -1);
-        compared(new int[] {9, 3}, new int[] {1, 3}, 1);
-        compared(new int[] {1, 5, 7}, new int[] {2, 4, 7}, 1);
-        compared(new int[] {1, 2, 3, 4}, new int[] {1, 2, 3, 4}, 0);
-        compared(new int[] {0, 2, 3, 4}, new int[] {1, 2, 3, 4}, -1);
-        compareChangesNothing();
+        compared(Made.row(), Made.row(), 0);
+        compared(Made.row(0, 0), Made.row(), 0);
+        compared(Made.row(0), Made.row(0, 0, 0, 0), 0);
+        compared(Made.row(1), Made.row(), 1);
+        compared(Made.row(5, 0, 0), Made.row(5), 0);
+        compared(Made.row(5, 0, 0, 0), Made.row(6), -1);
+        compared(Made.row(32767), Made.row(0, 1), -1);
+        compared(Made.row(9, 2), Made.row(1, 3), -1);
+        compared(Made.row(9, 3), Made.row(1, 3), 1);
+        compared(Made.row(1, 5, 7), Made.row(2, 4, 7), 1);
+        compared(Made.row(1, 2, 3, 4), Made.row(1, 2, 3, 4), 0);
+        compared(Made.row(0, 2, 3, 4), Made.row(1, 2, 3, 4), -1);
+        for (int log = 1; log <= 10; log++) {
+            comparedFull(log);
+        }
+        comparedRowsKeepTheirZeros();
+        comparedAfterClear();
         restOfNothing();
         restOfProducts();
+        restOfTheGreatest();
         restIsRefused();
         CHECK.ended();
     }
 
-    private static TransformProduct made(int[] a, int[] b) {
-        TransformProduct x = new TransformProduct(2);
-        for (int digit : a) {
-            x.feedA(digit);
-        }
-        for (int digit : b) {
-            x.feedB(digit);
-        }
-        return x;
-    }
-
+    /** Promise 15, and with A and B exchanged. */
     private static void compared(int[] a, int[] b, int due) {
         String name = java.util.Arrays.toString(a) + " and " + java.util.Arrays.toString(b);
-        CHECK.same("compare() of " + name, made(a, b).compare(), due);
-        CHECK.same("compare() turned of " + name, made(b, a).compare(), -due);
+        Twins twins = new Twins(CHECK, name, () -> Made.multiplied(2, a, b));
+        twins.reads("compare()", due, x -> x.compare());
+        Twins turned = new Twins(CHECK, name + " exchanged", () -> Made.unready(2, b, a));
+        turned.reads("compare()", -due, x -> x.compare());
     }
 
-    private static void compareChangesNothing() {
-        TransformProduct x = made(new int[] {1, 0, 0}, new int[] {2});
+    /** Rows of N digits that differ in the lowest, in the highest or in none. */
+    private static void comparedFull(int log) {
+        int size = 1 << log;
+        for (int differing : new int[] {-1, 0, size - 1}) {
+            TransformProduct x = new TransformProduct(log);
+            x.repeat(0, 7, size);
+            if (differing >= 0) {
+                x.repeat(1, 7, differing);
+                x.feedB(8);
+                x.repeat(1, 7, size - 1 - differing);
+            } else {
+                x.repeat(1, 7, size);
+            }
+            CHECK.same("compare() of full rows that differ in " + differing, x.compare(), differing < 0 ? 0 : -1);
+        }
+    }
+
+    private static void comparedRowsKeepTheirZeros() {
+        TransformProduct x = Made.unready(2, Made.row(1, 0, 0), Made.row(2, 0, 0));
         x.compare();
         CHECK.yes("one more fits in A", x.feedA(1));
-        CHECK.no("and no second: the zeros stayed", x.feedA(1));
+        CHECK.no("and no second", x.feedA(1));
+        CHECK.yes("one more fits in B", x.feedB(1));
+        CHECK.no("and no second", x.feedB(1));
     }
 
+    /** Digits that an earlier, longer row has left behind are no digits. */
+    private static void comparedAfterClear() {
+        TransformProduct x = Made.full(3);
+        x.clear();
+        CHECK.same("compare() of nothing after full rows", x.compare(), 0);
+        x.feedA(1);
+        CHECK.same("compare() of 1 and nothing", x.compare(), 1);
+        x.feedB(1);
+        CHECK.same("compare() of 1 and 1", x.compare(), 0);
+        x.feedB(0);
+        x.feedB(1);
+        CHECK.same("compare() of 1 and more", x.compare(), -1);
+    }
+
+    /** Promise 16: 0 leaves 0. */
     private static void restOfNothing() {
-        TransformProduct x = new TransformProduct(2);
-        CHECK.same("rest(1)", x.rest(1), 0);
-        CHECK.same("rest(1000000000)", x.rest(1000000000), 0);
+        Twins fresh = new Twins(CHECK, "new", () -> new TransformProduct(2));
+        Twins zero = new Twins(CHECK, "zero", () -> Made.multiplied(2, Made.row(0), Made.row(5)));
+        for (int m : new int[] {1, 2, 999999999, 1000000000}) {
+            fresh.reads("rest(" + m + ")", 0, x -> x.rest(m));
+            zero.reads("rest(" + m + ")", 0, x -> x.rest(m));
+        }
     }
 
     private static void restOfProducts() {
-        TransformProduct x = made(new int[] {32767, 32767, 32767, 32767}, new int[] {10, 1});
+        TransformProduct x = Made.unready(2, Made.row(32767, 32767, 32767, 32767), Made.row(10, 1));
         x.take(1);
         CHECK.same("32778 by 1", x.rest(1), 0);
         CHECK.same("32778 by 2", x.rest(2), 0);
@@ -68,13 +104,26 @@ public final class NumberTest {
         CHECK.product("product over rest()", x, 32767, 32767, 32767, 32767);
     }
 
-    private static void restIsRefused() {
-        TransformProduct x = made(new int[] {7}, new int[] {});
+    /** The greatest product by the greatest numbers: nothing runs over. */
+    private static void restOfTheGreatest() {
+        BigInteger greatest = BigInteger.ONE.shiftLeft(15 * 1024).subtract(BigInteger.ONE);
+        TransformProduct x = new TransformProduct(10);
+        x.repeat(0, 32767, 1024);
         x.take(0);
-        int[] wrong = {0, -1, -7, 1000000001, Integer.MIN_VALUE, Integer.MAX_VALUE};
-        for (int m : wrong) {
-            CHECK.same("rest(" + m + ")", x.rest(m), -1);
+        for (int m : new int[] {1, 2, 3, 32767, 32768, 32769, 999999937, 999999999, 1000000000}) {
+            CHECK.same("b^1024 - 1 by " + m, x.rest(m), greatest.mod(BigInteger.valueOf(m)).longValueExact());
         }
-        CHECK.product("after refusals", x, 7);
+    }
+
+    /** Promise 16: "NONE when m is not 1 .. 1000000000". */
+    private static void restIsRefused() {
+        Twins fresh = new Twins(CHECK, "new", () -> new TransformProduct(2));
+        Twins some = new Twins(CHECK, "42", () -> Made.multiplied(2, Made.row(6), Made.row(7)));
+        for (int m : new int[] {0, -1, -7, -1000000000, 1000000001, Integer.MIN_VALUE, Integer.MAX_VALUE}) {
+            fresh.hasNone("rest(" + m + ")", x -> x.rest(m));
+            some.hasNone("rest(" + m + ")", x -> x.rest(m));
+        }
+        some.reads("rest(1)", 0, x -> x.rest(1));
+        some.reads("rest(1000000000)", 42, x -> x.rest(1000000000));
     }
 }

@@ -1,128 +1,31 @@
 import java.util.Random;
 
-/** Promises 7 to 11: multiply, square, length, digit, butterflies. */
+/** Promises 7 and 8: what multiply and square make; their limits stand in ProductEdgeTest. */
 public final class ProductTest {
     private static final Check CHECK = new Check();
 
     public static void main(String[] args) {
         smallProducts();
-        productsWithZero();
-        zerosAtTheEndAreLeftOut();
-        multiplyIsRefused();
-        squareIsRefused();
-        digitsOutsideAreNone();
         for (int log = 1; log <= 10; log++) {
             greatestProducts(log);
-            butterfliesOf(log);
             mixedProducts(log);
         }
-        butterfliesAreTheLatest();
+        carryThroughAllDigits();
+        shorterProductReplacesALongerOne();
+        productsAreNotWrappedAround();
         factorsStay();
         CHECK.ended();
     }
 
-    private static TransformProduct made(int log, int[] a, int[] b) {
-        TransformProduct x = new TransformProduct(log);
-        x.init();
-        for (int digit : a) {
-            x.feedA(digit);
-        }
-        for (int digit : b) {
-            x.feedB(digit);
-        }
-        return x;
-    }
-
     private static void smallProducts() {
-        TransformProduct x = made(3, new int[] {1, 2, 3}, new int[] {4, 5});
+        TransformProduct x = Made.ready(3, Made.row(1, 2, 3), Made.row(4, 5));
         CHECK.yes("multiply()", x.multiply());
         CHECK.product("123 * 45", x, 4, 13, 22, 15);
         CHECK.yes("square()", x.square());
         CHECK.product("123 squared", x, 1, 4, 10, 12, 9);
-        TransformProduct y = made(1, new int[] {32767}, new int[] {32767});
+        TransformProduct y = Made.ready(1, Made.row(32767), Made.row(32767));
         CHECK.yes("multiply()", y.multiply());
         CHECK.product("32767 * 32767", y, 1, 32766);
-    }
-
-    private static void productsWithZero() {
-        TransformProduct x = made(2, new int[] {}, new int[] {});
-        CHECK.yes("multiply() of nothing", x.multiply());
-        CHECK.product("nothing", x);
-        CHECK.yes("square() of nothing", x.square());
-        CHECK.product("nothing squared", x);
-        x.repeat(1, 32767, 4);
-        x.take(1);
-        CHECK.yes("multiply() of none and N digits", x.multiply());
-        CHECK.product("none by N", x);
-        x.clear();
-        x.repeat(0, 0, 2);
-        x.repeat(1, 7, 2);
-        CHECK.yes("multiply() of zeros", x.multiply());
-        CHECK.product("zeros", x);
-        CHECK.yes("square() of zeros", x.square());
-        CHECK.product("zeros squared", x);
-    }
-
-    private static void zerosAtTheEndAreLeftOut() {
-        TransformProduct x = made(3, new int[] {0, 3, 0, 0}, new int[] {0, 5, 0});
-        CHECK.yes("multiply()", x.multiply());
-        CHECK.product("with zeros", x, 0, 0, 15);
-        CHECK.yes("square()", x.square());
-        CHECK.product("square with zeros", x, 0, 0, 9);
-    }
-
-    private static void multiplyIsRefused() {
-        TransformProduct x = new TransformProduct(2);
-        x.feedA(2);
-        x.feedB(3);
-        x.take(1);
-        CHECK.no("multiply() when not ready", x.multiply());
-        CHECK.product("after a refusal", x, 3);
-        x.init();
-        x.repeat(0, 0, 2);
-        CHECK.yes("multiply() of N digits together", x.multiply());
-        CHECK.product("2 * 3", x, 6);
-        x.square();
-        x.feedB(0);
-        x.take(0);
-        CHECK.no("multiply() of N + 1 digits together", x.multiply());
-        CHECK.product("after a refusal", x, 2);
-        CHECK.same("butterflies() after a refusal", x.butterflies(), 36);
-    }
-
-    private static void squareIsRefused() {
-        TransformProduct x = new TransformProduct(2);
-        x.feedA(4);
-        x.take(0);
-        CHECK.no("square() when not ready", x.square());
-        CHECK.product("after a refusal", x, 4);
-        x.init();
-        x.feedA(0);
-        CHECK.yes("square() of N / 2 digits", x.square());
-        CHECK.product("4 squared", x, 16);
-        x.feedA(0);
-        x.take(0);
-        CHECK.no("square() of more than N / 2 digits", x.square());
-        CHECK.product("after a refusal", x, 4);
-        CHECK.same("butterflies() after a refusal", x.butterflies(), 24);
-        x.clear();
-        x.repeat(1, 1, 4);
-        x.feedA(5);
-        CHECK.yes("square() whatever B has", x.square());
-        CHECK.product("5 squared", x, 25);
-    }
-
-    private static void digitsOutsideAreNone() {
-        TransformProduct x = made(3, new int[] {300, 1}, new int[] {300, 1});
-        x.multiply();
-        CHECK.product("product", x, 24464, 602, 1);
-        int[] outside = {-1, 3, 4, 7, 8, 1024, Integer.MIN_VALUE, Integer.MAX_VALUE};
-        for (int i : outside) {
-            CHECK.same("digit(" + i + ")", x.digit(i), -1);
-        }
-        x.clear();
-        x.take(0);
-        CHECK.same("digit(0) of no product", x.digit(0), -1);
     }
 
     /** (b^h - 1)^2 = b^2h - 2 b^h + 1: the coefficients are the greatest there are. */
@@ -180,37 +83,57 @@ public final class ProductTest {
         CHECK.product(name, x, model.productDigits());
     }
 
-    private static void butterfliesOf(int log) {
-        int[] transforms = {1, 4, 12, 32, 80, 192, 448, 1024, 2304, 5120};
-        TransformProduct x = new TransformProduct(log);
+    /** Twice b^1023 - 1: every digit hands a carry to the next, up to the N-th. */
+    private static void carryThroughAllDigits() {
+        TransformProduct x = new TransformProduct(10);
         x.init();
-        CHECK.same("butterflies() before", x.butterflies(), 0);
-        x.multiply();
-        CHECK.same("butterflies() of a product, log " + log, x.butterflies(), 9 * transforms[log - 1]);
-        x.square();
-        CHECK.same("butterflies() of a square, log " + log, x.butterflies(), 6 * transforms[log - 1]);
-        x.clear();
-        CHECK.same("butterflies() after clear()", x.butterflies(), 0);
+        x.repeat(0, 32767, 1023);
+        x.feedB(2);
+        CHECK.yes("multiply() of 1023 and 1 digits", x.multiply());
+        int[] due = new int[1024];
+        java.util.Arrays.fill(due, 32767);
+        due[0] = 32766;
+        due[1023] = 1;
+        CHECK.product("twice 1023 digits", x, due);
     }
 
-    private static void butterfliesAreTheLatest() {
-        TransformProduct x = made(2, new int[] {1}, new int[] {1});
-        x.multiply();
-        x.multiply();
-        CHECK.same("butterflies() of the latest alone", x.butterflies(), 36);
+    private static void shorterProductReplacesALongerOne() {
+        TransformProduct x = Made.full(3);
+        CHECK.same("length() before", x.length(), 8);
         x.take(0);
-        x.give(1);
-        x.spectrum(0, 0, 1);
-        x.feedA(1);
-        x.compare();
-        x.rest(3);
-        CHECK.same("butterflies() after other calls", x.butterflies(), 36);
-        x.square();
-        CHECK.same("butterflies() of the square", x.butterflies(), 24);
+        x.clear();
+        x.feedA(3);
+        x.feedB(4);
+        x.repeat(1, 0, 3);
+        CHECK.yes("multiply()", x.multiply());
+        CHECK.product("3 * 4", x, 12);
+        x.take(1);
+        CHECK.yes("square()", x.square());
+        CHECK.product("3 * 3", x, 9);
+    }
+
+    /** N digits together: the top of the product must not come round to its lowest digits. */
+    private static void productsAreNotWrappedAround() {
+        for (int log = 1; log <= 10; log++) {
+            int size = 1 << log;
+            for (int countA = 1; countA < size; countA = countA < 4 ? countA + 1 : countA * 2 + 1) {
+                TransformProduct x = new TransformProduct(log);
+                x.init();
+                x.repeat(0, 0, countA - 1);
+                x.feedA(32767);
+                x.repeat(1, 0, size - countA - 1);
+                x.feedB(32767);
+                CHECK.yes("multiply() of N digits", x.multiply());
+                int[] due = new int[size];
+                due[size - 2] = 1;
+                due[size - 1] = 32766;
+                CHECK.product("log " + log + ", top digits of " + countA, x, due);
+            }
+        }
     }
 
     private static void factorsStay() {
-        TransformProduct x = made(3, new int[] {1, 2}, new int[] {3, 0});
+        TransformProduct x = Made.ready(3, Made.row(1, 2), Made.row(3, 0));
         x.multiply();
         x.multiply();
         CHECK.product("multiplied again", x, 3, 6);
@@ -223,5 +146,13 @@ public final class ProductTest {
         CHECK.yes("six digits in B", x.multiply());
         x.feedB(1);
         CHECK.no("seven digits in B, so the zero stayed", x.multiply());
+        TransformProduct y = Made.ready(3, Made.row(1, 0, 0), Made.row(2, 0));
+        y.square();
+        y.square();
+        CHECK.product("squared again", y, 1);
+        CHECK.yes("five more digits in A", y.repeat(0, 1, 5));
+        CHECK.no("and no sixth, so the zeros stayed", y.feedA(1));
+        CHECK.yes("six more digits in B", y.repeat(1, 1, 6));
+        CHECK.no("and no seventh, so the zero stayed", y.feedB(1));
     }
 }

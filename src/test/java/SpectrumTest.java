@@ -4,21 +4,51 @@ public final class SpectrumTest {
 
     public static void main(String[] args) {
         notReady();
+        ofNoDigits();
         for (int log = 1; log <= 5; log++) {
             everyNumber(log);
         }
         ofTheGreatestRow();
-        wrongInputs();
+        noneSuch();
         spectrumChangesNothing();
+        followsTheRow();
         CHECK.ended();
     }
 
+    /** "NONE when it is not ready". */
     private static void notReady() {
-        TransformProduct x = new TransformProduct(2);
-        x.feedA(1);
-        CHECK.same("spectrum(0, 0, 0) when not ready", x.spectrum(0, 0, 0), -1);
+        Twins fresh = new Twins(CHECK, "new", () -> new TransformProduct(2));
+        Twins fed = new Twins(CHECK, "fed", () -> Made.unready(2, Made.row(1, 2), Made.row(3, 4)));
+        Twins cleared = new Twins(CHECK, "cleared", () -> {
+            TransformProduct x = Made.unready(2, Made.row(1, 2), Made.row(3, 4));
+            x.clear();
+            return x;
+        });
+        for (int which = 0; which < 2; which++) {
+            for (int prime = 0; prime < 3; prime++) {
+                int row = which;
+                int by = prime;
+                fresh.hasNone("spectrum(" + which + ", " + prime + ", 0)", x -> x.spectrum(row, by, 0));
+                fed.hasNone("spectrum(" + which + ", " + prime + ", 0)", x -> x.spectrum(row, by, 0));
+                fed.hasNone("spectrum(" + which + ", " + prime + ", 3)", x -> x.spectrum(row, by, 3));
+                cleared.hasNone("spectrum(" + which + ", " + prime + ", 0)", x -> x.spectrum(row, by, 0));
+            }
+        }
+        TransformProduct x = Made.unready(2, Made.row(1), Made.row());
+        x.spectrum(0, 0, 0);
         x.init();
         CHECK.same("spectrum(0, 0, 0) when ready", x.spectrum(0, 0, 0), 1);
+    }
+
+    /** Rows without digits have a spectrum too: N times 0. */
+    private static void ofNoDigits() {
+        TransformProduct x = Made.ready(10, Made.row(), Made.row(0, 0));
+        for (int prime = 0; prime < 3; prime++) {
+            for (int i : new int[] {0, 1, 512, 1023}) {
+                CHECK.same("spectrum(0, " + prime + ", " + i + ") of no digits", x.spectrum(0, prime, i), 0);
+                CHECK.same("spectrum(1, " + prime + ", " + i + ") of zeros", x.spectrum(1, prime, i), 0);
+            }
+        }
     }
 
     private static void everyNumber(int log) {
@@ -67,35 +97,45 @@ public final class SpectrumTest {
         }
     }
 
-    private static void wrongInputs() {
-        TransformProduct x = new TransformProduct(3);
-        x.init();
-        x.feedA(1);
-        x.feedB(1);
+    /** "of A (which = 0) or B (1), by the prime 0, 1 or 2; NONE when ... there are none such". */
+    private static void noneSuch() {
         int[] far = {-1, Integer.MIN_VALUE, Integer.MAX_VALUE};
-        for (int wrong : far) {
-            CHECK.same("which " + wrong, x.spectrum(wrong, 0, 0), -1);
-            CHECK.same("prime " + wrong, x.spectrum(0, wrong, 0), -1);
-            CHECK.same("i " + wrong, x.spectrum(0, 0, wrong), -1);
+        for (int log = 1; log <= 10; log += 3) {
+            int size = 1 << log;
+            int usedLog = log;
+            Twins twins = new Twins(CHECK, "log " + log, () -> Made.multiplied(usedLog, Made.row(1), Made.row(2)));
+            for (int wrong : far) {
+                twins.hasNone("which " + wrong, x -> x.spectrum(wrong, 0, 0));
+                twins.hasNone("prime " + wrong, x -> x.spectrum(0, wrong, 0));
+                twins.hasNone("i " + wrong, x -> x.spectrum(0, 0, wrong));
+            }
+            twins.hasNone("which 2", x -> x.spectrum(2, 0, 0));
+            twins.hasNone("prime 3", x -> x.spectrum(1, 3, 0));
+            twins.hasNone("i of N for A", x -> x.spectrum(0, 0, size));
+            twins.hasNone("i of N for B", x -> x.spectrum(1, 2, size));
+            twins.reads("the first of all", 1, x -> x.spectrum(0, 0, 0));
+            twins.reads("the last of all", 2, x -> x.spectrum(1, 2, size - 1));
         }
-        CHECK.same("which 2", x.spectrum(2, 0, 0), -1);
-        CHECK.same("prime 3", x.spectrum(1, 3, 0), -1);
-        CHECK.same("i of N", x.spectrum(1, 2, 8), -1);
-        CHECK.same("the last of all", x.spectrum(1, 2, 7), 1);
     }
 
     private static void spectrumChangesNothing() {
-        TransformProduct x = new TransformProduct(3);
-        x.init();
+        Twins twins = new Twins(CHECK, "full", () -> Made.full(3));
+        twins.reads("spectrum(0, 0, 0)", 8 * 32767, x -> x.spectrum(0, 0, 0));
+        twins.reads("spectrum(1, 1, 4)", 0, x -> x.spectrum(1, 1, 4));
+    }
+
+    /** A spectrum is of the digits that the row has now. */
+    private static void followsTheRow() {
+        TransformProduct x = Made.ready(2, Made.row(5), Made.row(1, 1));
+        CHECK.same("spectrum(0, 0, 0)", x.spectrum(0, 0, 0), 5);
         x.feedA(6);
-        x.feedB(7);
-        x.multiply();
-        x.spectrum(0, 0, 3);
-        x.spectrum(1, 1, 2);
-        CHECK.product("product over spectrum()", x, 42);
-        x.take(0);
-        CHECK.product("A over spectrum()", x, 6);
+        CHECK.same("after feedA(6)", x.spectrum(0, 0, 0), 11);
+        x.repeat(0, 7, 2);
+        CHECK.same("after repeat(0, 7, 2)", x.spectrum(0, 0, 0), 25);
         x.take(1);
-        CHECK.product("B over spectrum()", x, 7);
+        x.give(0);
+        CHECK.same("after give(0)", x.spectrum(0, 0, 0), 2);
+        x.clear();
+        CHECK.same("after clear()", x.spectrum(0, 0, 0), 0);
     }
 }
