@@ -5,7 +5,7 @@ import java.lang.reflect.Modifier;
 import java.util.Set;
 import java.util.TreeSet;
 
-/** The class's face is the document's and no more. */
+/** The class's face is the document's and no more; rule 1 of LANGUAGE.md. */
 public final class FaceTest {
     private static final Set<String> DUE = Set.of(
             "public static final int TransformProduct.NONE",
@@ -47,7 +47,26 @@ public final class FaceTest {
         int modifiers = TransformProduct.class.getModifiers();
         check.yes("public final", Modifier.isPublic(modifiers) && Modifier.isFinal(modifiers));
         check.same("NONE", TransformProduct.NONE, -1);
+        classesInside(check);
+        namesOfPrivateMethods(check);
         check.ended();
+    }
+
+    /** "the classes inside it, which are private or package-visible and static". */
+    private static void classesInside(Check check) {
+        for (Class<?> inside : TransformProduct.class.getDeclaredClasses()) {
+            int modifiers = inside.getModifiers();
+            check.no("open: " + inside, Modifier.isPublic(modifiers) || Modifier.isProtected(modifiers));
+            check.yes("static: " + inside, Modifier.isStatic(modifiers));
+        }
+    }
+
+    /** "No private method bears the name of a public one." */
+    private static void namesOfPrivateMethods(Check check) {
+        for (Method method : TransformProduct.class.getDeclaredMethods()) {
+            boolean open = DUE.stream().anyMatch(due -> due.contains("." + method.getName() + "("));
+            check.same("public: " + method, Modifier.isPublic(method.getModifiers()) ? 1 : 0, open ? 1 : 0);
+        }
     }
 
     private static void addOpen(Set<String> seen, int modifiers, boolean synthetic, String text) {
